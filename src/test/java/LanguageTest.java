@@ -1,0 +1,39 @@
+import java.nio.file.Files;
+import java.nio.file.Path;
+import java.util.regex.Matcher;
+import java.util.regex.Pattern;
+
+/** Rules of LANGUAGE.md that can be seen in the words of the source; run in the project's folder. */
+public final class LanguageTest {
+    private static final String[] REFUSED = {
+        "\\bthrow\\b", "\\bthrows\\b", "\\btry\\b", "\\bcatch\\b", "\\bsynchronized\\b",
+        "\\bassert\\b", "\\bimport\\b", "\\bpackage\\b", "->", "::", "\\bstatic\\s*\\{",
+        "\\bObject\\b", "\\bSystem\\.(?!arraycopy)", "Exact\\b", "\\bprotected\\b",
+        "\\bhashCode\\b", "\\btoString\\b", "\\bvolatile\\b", "\\bThread\\b", "\\bwhile\\b",
+    };
+
+    public static void main(String[] args) throws Exception {
+        Due due = new Due("LanguageTest");
+        String source = Files.readString(Path.of("src/main/java/SiphonReport.java"));
+        String code = source.replaceAll("(?s)/\\*.*?\\*/", "").replaceAll("//[^\\n]*", "");
+        for (String words : REFUSED) {
+            due.is("places with " + words, count(code, words), 0);
+        }
+        due.is("signs above 126", count(source, "[^\\n -~]"), 0);
+        due.is("static fields that are not final",
+            count(code, "\\bstatic (?!final\\b)[\\w\\[\\]]+ \\w+\\s*[=;]"), 0);
+        due.is("classes are at most 12", count(code, "\\bclass \\w+") <= 12, true);
+        due.is("objects made outside of fields and the constructor",
+            count(code.substring(code.indexOf("public boolean type")), "(?<!= )\\bnew\\b"), 0);
+        due.end();
+    }
+
+    private static int count(String text, String words) {
+        Matcher m = Pattern.compile(words).matcher(text);
+        int found = 0;
+        while (m.find()) {
+            found++;
+        }
+        return found;
+    }
+}
