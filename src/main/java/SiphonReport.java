@@ -71,7 +71,10 @@ public final class SiphonReport {
         Network former = network;
         network = spare;
         spare = former;
-        study();
+        classes.fill(network);
+        ranks.fill(network, classes);
+        fillSiphons();
+        conservedSums.fill(network, ranks.reduced);
         return network.reactionCount;
     }
 
@@ -169,13 +172,6 @@ public final class SiphonReport {
             sum += SPECIES_CONSERVED;
         }
         return sum;
-    }
-
-    private void study() {
-        classes.fill(network);
-        ranks.fill(network, classes);
-        fillSiphons();
-        conservedSums.fill(network, ranks.reduced);
     }
 
     private void fillSiphons() {

@@ -3,13 +3,16 @@ import java.nio.file.Path;
 import java.util.regex.Matcher;
 import java.util.regex.Pattern;
 
-/** Rules of LANGUAGE.md that can be seen in the words of the source; run in the project's folder. */
+/**
+ * Rules of LANGUAGE.md that can be seen in the words of the source, and that objects are made in
+ * constructors alone. To be run in the project's folder.
+ */
 public final class LanguageTest {
     private static final String[] REFUSED = {
         "\\bthrow\\b", "\\bthrows\\b", "\\btry\\b", "\\bcatch\\b", "\\bsynchronized\\b",
-        "\\bassert\\b", "\\bimport\\b", "\\bpackage\\b", "->", "::", "\\bstatic\\s*\\{",
+        "\\bassert\\b", "\\bimport (?!java\\.util\\.(ArrayList|List|Arrays|Iterator);)", "\\bpackage\\b", "->", "::", "\\bstatic\\s*\\{",
         "\\bObject\\b", "\\bSystem\\.(?!arraycopy)", "Exact\\b", "\\bprotected\\b",
-        "\\bhashCode\\b", "\\btoString\\b", "\\bvolatile\\b", "\\bThread\\b", "\\bwhile\\b",
+        "\\bhashCode\\b", "String toString\\b", "\\bvolatile\\b", "\\bThread\\b",
     };
 
     public static void main(String[] args) throws Exception {

@@ -133,7 +133,6 @@ final class Oracle {
                 first &= !way(j, i, true);
             }
             classes += first ? 1 : 0;
-            // Classes that begin later than this complex don't count before it.
         }
         return -1;
     }

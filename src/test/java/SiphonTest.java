@@ -11,6 +11,7 @@ public final class SiphonTest {
         siphonsAre(due, "A+B=C", 5, 6);
         siphonsAre(due, "A+B>C;C>A+D", 2, 5);
         siphonsAre(due, "A>B;B>C;C>A;D=E", 7, 24);
+        siphonsAre(due, "A>B;B>C;C>D;D>E;E>F;F>G;G>A", 127);
         siphonsAre(due, "2A>3A", 1);
         siphonsAre(due, "A+B>A+C", 1, 2);
         siphonsAre(due, "A+E=F;F>B+E;B+G=C;C>A+G", 39, 48, 68);

@@ -13,6 +13,7 @@ public final class StructureTest {
         terminalClasses(due);
         ranks(due);
         deficiencies(due);
+        smallerAfterLarger(due);
         reportsOutliveText(due);
         due.end();
     }
@@ -76,6 +77,7 @@ public final class StructureTest {
         for (int i = 0; i < mixed.length; i++) {
             due.is("mixed classOf(" + i + ")", y.classOf(i), mixed[i]);
         }
+        due.is("a star", Due.network("A>B;A>C;D>A").linkage(), 1);
         due.is("a chain that closes late", Due.network("A>B;C>D;E>F;D>F;B>E").linkage(), 1);
     }
 
@@ -83,6 +85,7 @@ public final class StructureTest {
         due.is("A>B", Due.network("A>B").strong(), 2);
         due.is("A=B", Due.network("A=B").strong(), 1);
         due.is("a ring", Due.network("A>B;B>C;C>D;D>A").strong(), 1);
+        due.is("a star", Due.network("A=B;A=C;D=A").strong(), 1);
         due.is("a ring with a tail", Due.network("A>B;B>C;C>A;C>D;E>A").strong(), 3);
         due.is("two rings, one way", Due.network("A=B;C=D;A>C").strong(), 2);
         due.is("two rings, both ways", Due.network("A=B;C=D;A>C;D>B").strong(), 1);
@@ -137,6 +140,19 @@ public final class StructureTest {
         SiphonReport z = Due.network("A>2A;2A>3A;3A>4A;4A>0");
         due.is("deficiency(0) of one line", z.deficiency(0), 3);
         due.is("deficiency(-1) of one line", z.deficiency(-1), 3);
+    }
+
+    private static void smallerAfterLarger(Due due) {
+        SiphonReport x = Due.network("A>2A;2A>3A;3A>4A;B>2B;2B>3B;3B>0");
+        due.is("deficiency(1) of the larger", x.deficiency(1), 2);
+        Due.retype(x, "A=B");
+        x.read();
+        due.is("linkage() of the smaller", x.linkage(), 1);
+        due.is("deficiency(0) of the smaller", x.deficiency(0), 0);
+        due.is("deficiency(1) of the smaller", x.deficiency(1), -1);
+        due.is("classOf(2) of the smaller", x.classOf(2), -1);
+        due.is("coefficient(2, 0) of the smaller", x.coefficient(2, 0), -1);
+        due.is("terminal(3) of the smaller", x.terminal(3), false);
     }
 
     private static void reportsOutliveText(Due due) {

@@ -14,6 +14,12 @@ public final class SumTest {
         sumsAre(due, "2A>B;2B>C;2C>D;2D>E", row(1, 2, 4, 8, 16));
         sumsAre(due, "4A>B;4B>C;4C>D;4D>E", row(1, 4, 16, 64, 256));
         sumsAre(due, "4A>3B;4B>3C;4C>3D;4D>3E", row(81, 108, 144, 192, 256));
+        sumsAre(due, "4B+3A+2F>4F+3D;4F+3D>2C+2F+4E;G>3F+2C;3E+2C+4A>4F+3D;3F+2C>4D+3B;"
+            + "G>4B+3A+2F;4D+3B>3E+2C+4A", row(234, 394, 931, 482, 104, 416, 3110));
+        sumsAre(due, "3E+3D+2C>A+4C+3F;A+4C+3F>4C+4B;4C+4B>4E+2B+C;4E+2B+C>2A+D;2A+D>F+4G+E;"
+            + "F+4G+E>4G+B+4F", row(2988, 804, 840, 600, 1032, 76, 1367));
+        sumsAre(due, "A>B;B>C;C>D;D>E;E>F;F>G;G>A", row(1, 1, 1, 1, 1, 1, 1));
+        sumsAre(due, "A+B>A+C", row(1), row(0, 1, 1));
         sumsAre(due, "E+A>E+B", row(1, 1), row(0, 0, 0, 0, 1));
         sumsAre(due, "4G>3F", row(0, 0, 0, 0, 0, 4, 3));
         sumsAre(due, "A>B;C>0;D=E", row(1, 1), row(0, 0, 0, 1, 1));
